@@ -21,8 +21,9 @@ public final class FourYearsForAStrip {
     private static final int TAPE_MOST = 160, TEXTS_MOST = 6, PARTS = 3, OPEN_MOST = 5, DIGITS_MOST = 4;
     private static final int DIGS_PART = 0, WEEDS_PART = 1, STAYS_PART = 2;
 
-    /** Tokens; a sign stands for itself. END and NO_TOKEN are none that any text may hold. */
+    /** Tokens; a sign stands for itself, a name for its code. Where END or NO_TOKEN stands no other may. */
     private static final int END = 0, NO_TOKEN = 1, A_NUMBER = 2;
+    /** The keys of the three parts are numbered as the parts are. */
     private static final int KEY_DIGS = 201, KEY_WEEDS = 202, KEY_STAYS = 203, KEY_OR = 204, KEY_AND = 205, KEY_NOT = 206;
 
     /** Codes of a text that was read: names are NAME_FIRST and below, a number is its own code. */
@@ -83,7 +84,7 @@ public final class FourYearsForAStrip {
         if (!isWithin(kind, 0, KINDS - 1) || !isWithin(number, 0, NUMBERS - 1)) {
             return BAD;
         }
-        return now.isCrowded() ? FULL : now.comes(kind, number);
+        return now.comes(kind, number);
     }
 
     public int told(int of, int what) {
@@ -129,9 +130,6 @@ public final class FourYearsForAStrip {
         if (!isWithin(letter, 0, 255)) {
             return BAD;
         }
-        if (tape.isFull()) {
-            return FULL;
-        }
         return tape.add(letter);
     }
 
@@ -139,7 +137,8 @@ public final class FourYearsForAStrip {
         if (book.isFull()) {
             return FULL;
         }
-        int fault = reader.readTape();
+        tape.split();
+        int fault = reader.readText();
         tape.clear();
         if (fault != NONE) {
             book.dropUnfinished();
@@ -171,14 +170,13 @@ public final class FourYearsForAStrip {
         if (!isSpan(n) || !mayRunTell(what)) {
             return BAD;
         }
-        thought.become(now);
-        thought.passYears(n);
+        int well = wellAsNow(n);
         switch (what) {
             case 0: return thought.freeStrips();
             case 1: return thought.stripsBelowLimit();
             case 2: return thought.peopleAt(GONE);
             case 3: return thought.peopleAt(WAITING);
-            case 4: return thought.tendedWell();
+            case 4: return well;
             default: return ranTo(what / 10, what % 10);
         }
     }
@@ -676,10 +674,6 @@ public final class FourYearsForAStrip {
             System.arraycopy(other.waited, 0, waited, 0, PEOPLE_MOST);
         }
 
-        boolean isCrowded() {
-            return people >= PEOPLE_MOST;
-        }
-
         boolean isPerson(int one) {
             return one >= 0 && one < people && one < PEOPLE_MOST;
         }
@@ -688,6 +682,7 @@ public final class FourYearsForAStrip {
             return place[one] >= 0;
         }
 
+        /** One more, waiting; FULL. */
         int comes(int ofKind, int withNumber) {
             int one = people;
             if (one >= PEOPLE_MOST) {
@@ -894,14 +889,10 @@ public final class FourYearsForAStrip {
             year++;
         }
 
-        void passYears(int n) {
+        int wellAfter(int n) {
             for (int i = 0; i < n; i++) {
                 passYear();
             }
-        }
-
-        int wellAfter(int n) {
-            passYears(n);
             return tendedWell();
         }
     }
@@ -993,22 +984,23 @@ public final class FourYearsForAStrip {
         }
     }
 
-    /** The bytes that were fed, and the tokens in them, one at a time. */
+    /** The bytes that were fed, and the tokens that they are split into. */
     private static final class Tape {
         private final int[] bytes = new int[TAPE_MOST];
         private int size, at;
-        /** The token that is looked at, where it begins, and its worth if it is a number. */
-        private int token, begins, worth;
+        /** Each token, where it begins, and its worth if it is a number; the last one is END. */
+        private final int[] token = new int[TAPE_MOST + 1];
+        private final int[] begins = new int[TAPE_MOST + 1];
+        private final int[] worth = new int[TAPE_MOST + 1];
+        private int tokens;
 
-        boolean isFull() {
-            return size >= TAPE_MOST;
-        }
-
+        /** How many bytes there are then; FULL. */
         int add(int letter) {
-            if (size < TAPE_MOST) {
-                bytes[size] = letter;
-                size++;
+            if (size >= TAPE_MOST) {
+                return FULL;
             }
+            bytes[size] = letter;
+            size++;
             return size;
         }
 
@@ -1016,24 +1008,30 @@ public final class FourYearsForAStrip {
             size = 0;
         }
 
-        void rewind() {
+        void split() {
             at = 0;
-            next();
+            tokens = 0;
+            skipBlanks();
+            // Every token has a byte at least.
+            for (int i = 0; i < TAPE_MOST && at < size; i++) {
+                int from = at;
+                int read = isLetter(bytes[at]) ? readWord() : isDigit(bytes[at]) ? readNumber() : readSign();
+                keep(read, from);
+                skipBlanks();
+            }
+            keep(END, size);
         }
 
-        void next() {
-            while (at < size && (bytes[at] == ' ' || bytes[at] == '\n')) {
-                at++;
+        private void keep(int read, int from) {
+            if (tokens < token.length) {
+                token[tokens] = read;
+                begins[tokens] = from;
+                tokens++;
             }
-            begins = at;
-            if (at >= size) {
-                token = END;
-            } else if (isLetter(bytes[at])) {
-                readWord();
-            } else if (isDigit(bytes[at])) {
-                readNumber();
-            } else {
-                token = isSign(bytes[at]) ? bytes[at] : NO_TOKEN;
+        }
+
+        private void skipBlanks() {
+            while (at < size && (bytes[at] == ' ' || bytes[at] == '\n')) {
                 at++;
             }
         }
@@ -1050,41 +1048,54 @@ public final class FourYearsForAStrip {
             return b == '(' || b == ')' || b == ';' || b == '+' || b == '-' || b == '*' || b == '<' || b == '=';
         }
 
-        private void readWord() {
+        private int readSign() {
+            int b = bytes[at];
+            at++;
+            return isSign(b) ? b : NO_TOKEN;
+        }
+
+        private int readNumber() {
+            int from = at;
+            int value = 0;
+            while (at < size && isDigit(bytes[at])) {
+                value = value * 10 + bytes[at] - '0';
+                at++;
+            }
+            if (tokens < worth.length) {
+                worth[tokens] = value;
+            }
+            return at - from <= DIGITS_MOST ? A_NUMBER : NO_TOKEN;
+        }
+
+        private int readWord() {
+            int from = at;
             while (at < size && isLetter(bytes[at])) {
                 at++;
             }
-            int key = keyOf();
-            token = key != NO_TOKEN ? key : nameOf();
+            int key = keyFrom(from);
+            return key != NO_TOKEN ? key : nameFrom(from);
         }
 
-        private void readNumber() {
-            worth = 0;
-            while (at < size && isDigit(bytes[at])) {
-                worth = worth * 10 + bytes[at] - '0';
-                at++;
-            }
-            token = at - begins <= DIGITS_MOST ? A_NUMBER : NO_TOKEN;
+        private int keyFrom(int from) {
+            return isWord("digs", from) ? KEY_DIGS : isWord("weeds", from) ? KEY_WEEDS
+                : isWord("stays", from) ? KEY_STAYS : isWord("or", from) ? KEY_OR
+                : isWord("and", from) ? KEY_AND : isWord("not", from) ? KEY_NOT : NO_TOKEN;
         }
 
-        private int keyOf() {
-            return isWord("digs") ? KEY_DIGS : isWord("weeds") ? KEY_WEEDS : isWord("stays") ? KEY_STAYS
-                : isWord("or") ? KEY_OR : isWord("and") ? KEY_AND : isWord("not") ? KEY_NOT : NO_TOKEN;
+        /** The codes are in the order in which ask() lays the names out. */
+        private int nameFrom(int from) {
+            return isWord("number", from) ? NAME_FIRST : isWord("year", from) ? NAME_FIRST - 1
+                : isWord("level", from) ? NAME_FIRST - 2 : isWord("held", from) ? NAME_FIRST - 3
+                : isWord("strip", from) ? NAME_FIRST - 4 : isWord("warned", from) ? NAME_FIRST - 5 : NO_TOKEN;
         }
 
-        /** A name is its own code, in the order in which ask() lays the names out. */
-        private int nameOf() {
-            return isWord("number") ? NAME_FIRST : isWord("year") ? NAME_FIRST - 1
-                : isWord("level") ? NAME_FIRST - 2 : isWord("held") ? NAME_FIRST - 3
-                : isWord("strip") ? NAME_FIRST - 4 : isWord("warned") ? NAME_FIRST - 5 : NO_TOKEN;
-        }
-
-        private boolean isWord(String word) {
-            if (at - begins != word.length()) {
+        /** Whether the bytes from there to where the tape is read now are that word. */
+        private boolean isWord(String word, int from) {
+            if (at - from != word.length()) {
                 return false;
             }
-            for (int i = 0; i < word.length() && begins + i < size; i++) {
-                if (bytes[begins + i] != word.charAt(i)) {
+            for (int i = 0; i < word.length() && from + i < size; i++) {
+                if (bytes[from + i] != word.charAt(i)) {
                     return false;
                 }
             }
@@ -1093,12 +1104,13 @@ public final class FourYearsForAStrip {
     }
 
     /**
-     * Reads the tape as a text into the book. Once there is a fault, nothing more is taken from the tape.
+     * Reads the tape's tokens as a text into the book. Once there is a fault, no token more is taken.
      * How many of ( not - are open is carried as an argument, so no text goes deeper than OPEN_MOST.
      */
     private static final class Reader {
         private final Tape tape;
         private final Book book;
+        private int at;
         private int fault;
 
         Reader(Tape tape, Book book) {
@@ -1107,36 +1119,40 @@ public final class FourYearsForAStrip {
         }
 
         /** The place of the fault; NONE. */
-        int readTape() {
+        int readText() {
+            at = 0;
             fault = NONE;
-            tape.rewind();
-            readPart(KEY_DIGS);
-            readPart(KEY_WEEDS);
-            readPart(KEY_STAYS);
-            if (tape.token != END) {
+            for (int part = 0; part < PARTS; part++) {
+                expect(KEY_DIGS + part);
+                either(0);
+                expect(';');
+                book.endPart();
+            }
+            if (!isNext(END)) {
                 faultHere();
             }
             return fault;
         }
 
-        private void readPart(int key) {
-            expect(key);
-            either(0);
-            expect(';');
-            book.endPart();
+        private boolean isNext(int token) {
+            return at < tape.tokens && tape.token[at] == token;
+        }
+
+        private boolean isNextName() {
+            return at < tape.tokens && tape.token[at] <= NAME_FIRST;
         }
 
         private void faultHere() {
-            if (fault == NONE) {
-                fault = tape.begins;
+            if (fault == NONE && at < tape.tokens) {
+                fault = tape.begins[at];
             }
         }
 
         private boolean took(int token) {
-            if (fault != NONE || tape.token != token) {
+            if (fault != NONE || !isNext(token)) {
                 return false;
             }
-            tape.next();
+            at++;
             return true;
         }
 
@@ -1147,7 +1163,7 @@ public final class FourYearsForAStrip {
         }
 
         private boolean opened(int token, int open) {
-            if (tape.token == token && open >= OPEN_MOST) {
+            if (isNext(token) && open >= OPEN_MOST) {
                 faultHere();
             }
             return took(token);
@@ -1217,12 +1233,12 @@ public final class FourYearsForAStrip {
             } else if (opened('(', open)) {
                 either(open + 1);
                 expect(')');
-            } else if (tape.token == A_NUMBER) {
-                book.add(tape.worth);
-                took(A_NUMBER);
-            } else if (tape.token <= NAME_FIRST) {
-                book.add(tape.token);
-                took(tape.token);
+            } else if (fault == NONE && isNext(A_NUMBER)) {
+                book.add(tape.worth[at]);
+                at++;
+            } else if (fault == NONE && isNextName()) {
+                book.add(tape.token[at]);
+                at++;
             } else {
                 faultHere();
             }

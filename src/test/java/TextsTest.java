@@ -259,6 +259,9 @@ public final class TextsTest {
         fault("digs abc;weeds 1;stays 1;", 5);
         fault("digs yearx;weeds 1;stays 1;", 5);
         fault("digs yea;weeds 1;stays 1;", 5);
+        fault("digs yearz;weeds 1;stays 1;", 5);
+        fault("digs yeara;weeds 1;stays 1;", 5);
+        fault("digs ayear;weeds 1;stays 1;", 5);
         fault("digss 1;weeds 1;stays 1;", 0);
         fault("Digs 1;weeds 1;stays 1;", 0);
         fault("digs 1#;weeds 1;stays 1;", 6);
