@@ -88,10 +88,7 @@ public final class FourYearsForAStrip {
     }
 
     public int told(int of, int what) {
-        if (!isWithin(what, 0, 13) || !isKnown(what, of)) {
-            return BAD;
-        }
-        return valueOf(what, of);
+        return isKnown(what, of) ? valueOf(what, of) : BAD;
     }
 
     public int give(int one, int strip) {
@@ -691,8 +688,6 @@ public final class FourYearsForAStrip {
             kind[one] = ofKind;
             number[one] = withNumber;
             place[one] = WAITING;
-            held[one] = 0;
-            warned[one] = 0;
             waited[one] = 0;
             people = one + 1;
             return one;

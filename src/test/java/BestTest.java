@@ -93,6 +93,11 @@ public final class BestTest {
         CHECK.due("16: not more", x.drain(1, 0), -1);
         CHECK.due("16: as now", x.drain(1, 1), 152);
         CHECK.due("16: still wet", x.told(1, 4), 1);
+        x.set(4, 0, 1);
+        CHECK.due("16: strip 0 is one, too", x.drain(1, 0), 0);
+        x.set(4, 0, 0);
+        x.set(4, 5, 1);
+        CHECK.due("16: strip 5 is one, too", x.drain(1, 0), 5);
     }
 
     private static void strike() {

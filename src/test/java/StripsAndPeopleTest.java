@@ -5,6 +5,7 @@ public final class StripsAndPeopleTest {
     public static void main(String[] args) {
         newObject();
         setTakesItsRanges();
+        setChangesNothingElse();
         setRefuses();
         tenantComes();
         toldOfAll();
@@ -69,6 +70,20 @@ public final class StripsAndPeopleTest {
         ranged(x, 6, 0, 0, 999);
         ranged(x, 7, 0, 0, 9);
         ranged(x, 8, 1, 0, 999);
+    }
+
+    private static void setChangesNothingElse() {
+        FourYearsForAStrip x = Check.with(0, 5, 1, 6);
+        x.give(0, 2);
+        int[] of = {0, 0, 0, 2, 2, 0, 0, 0, 1};
+        int[] due = {0, 30, 3, 50, 0, 5, 0, 0, 0};
+        for (int what = 0; what < 9; what++) {
+            CHECK.due("2: set " + what, x.set(what, of[what], 1), due[what]);
+            due[what] = 1;
+            for (int told = 0; told < 9; told++) {
+                CHECK.due("2: told " + told + " behind set " + what, x.told(of[told], told), due[told]);
+            }
+        }
     }
 
     private static void setRefuses() {

@@ -291,6 +291,15 @@ public final class TextsTest {
         String text = most + ";weeds 1;stays 1;";
         CHECK.holds("long enough", text.length() > 157 && text.length() <= 160);
         reads(text);
+        FourYearsForAStrip three = Check.with(0, 0);
+        three.give(0, 0);
+        for (int i = 1; i <= 3; i++) {
+            // the first 1 becomes 80 and more: digs 80 + i less all the others
+            String longText = text.replaceFirst("1", "" + (80 + i)).replaceFirst("-1;", ";");
+            CHECK.due("a long text " + i, Check.read(three, longText), i);
+        }
+        three.force(3);
+        CHECK.due("a long text tells", three.told(0, 12), 83 - (text.indexOf(';') - 6) / 2 + 1);
         FourYearsForAStrip x = new FourYearsForAStrip();
         String deep = "digs 1 or 1 and 1<1+1*(1 or 1 and 1<1+1*(1 or 1 and 1<1+1*(1 or 1 and 1<1+1*(1 or 1 and 1<1+1*"
             + "(0 or 1 and 1<1+1*5)))));weeds 1;stays 1;";
