@@ -13,6 +13,7 @@ public final class ToldYearsTest {
         drawn();
         chance();
         image();
+        laterImage();
         imageAndNewPeople();
         count();
         CHECK.end();
@@ -259,7 +260,7 @@ public final class ToldYearsTest {
         return below >= 1;
     }
 
-    /** Numbers for all that an image keeps. */
+    /** Numbers for all that an image keeps: few enough that an object can be asked for them six times. */
     private static String all(FourYearsForAStrip x) {
         StringBuilder told = new StringBuilder();
         for (int what = 0; what < 8; what++) {
@@ -268,8 +269,9 @@ public final class ToldYearsTest {
                 told.append(x.count(what)).append(' ');
             }
         }
-        for (int what = 0; what < 14; what++) {
-            for (int of = 0; of < 8; of++) {
+        told.append(x.told(0, 1)).append(' ').append(x.told(0, 2)).append(' ');
+        for (int what = 3; what < 14; what++) {
+            for (int of = 0; of < 6; of++) {
                 told.append(x.told(of, what)).append(' ');
             }
         }
@@ -312,6 +314,11 @@ public final class ToldYearsTest {
         x.year();
         CHECK.due("24: again", x.back(), 4);
         CHECK.holds("24: all is as it was", was.equals(all(x)));
+    }
+
+    private static void laterImage() {
+        FourYearsForAStrip x = Check.with(0, 1, 1, 2, 2, 3, 3, 4);
+        x.image();
         x.year();
         String later = all(x);
         CHECK.due("23: a later one", x.image(), 4);
