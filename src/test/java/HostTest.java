@@ -151,17 +151,10 @@ public final class HostTest {
         CHECK.holds("28: nothing came", numbers(x, 1).equals("00000000"));
     }
 
-    private static void write(FourYearsForAStrip x, int sheet, int sort, int... cells) {
-        x.sheet(sheet, sort, cells.length);
-        for (int i = 0; i < cells.length; i++) {
-            x.cell(sheet, i, cells[i]);
-        }
-    }
-
     private static void tenants() {
         for (int sort = 0; sort < 3; sort++) {
             FourYearsForAStrip x = new FourYearsForAStrip();
-            write(x, 1, sort, 9, 0, 1, 5, 2, 6, 3, 1, 10, -1, 0, 0, -1, 4, 9);
+            Gardens.write(x, 1, sort, 9, 0, 1, 5, 2, 6, 3, 1, 10, -1, 0, 0, -1, 4, 9);
             CHECK.due("29: three of seven", x.tenants(1, sort, 1, 7), 3);
             int[] kinds = {0, 5, 4};
             int[] numbers = {1, 2, 9};
@@ -185,7 +178,7 @@ public final class HostTest {
 
     private static void tenantsOutside() {
         FourYearsForAStrip x = new FourYearsForAStrip();
-        write(x, 0, 1, 0, 1, 2, 3, 1);
+        Gardens.write(x, 0, 1, 0, 1, 2, 3, 1);
         CHECK.due("29: the third is cut", x.tenants(0, 1, 0, 3), -12);
         CHECK.due("29: what stood ahead came", x.count(0), 2);
         CHECK.due("29: two", x.tenants(0, 1, 0, 2), 2);

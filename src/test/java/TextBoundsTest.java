@@ -616,6 +616,28 @@ public final class TextBoundsTest {
         x.give(0, 0);
         x.force(2);
         S.due("it is its own words", x.told(0, 12), 3);
+        faultsLeaveNothing();
+    }
+
+    /** Three texts that end where as much as can be waits for its other side, and a whole one behind them. */
+    private static void faultsLeaveNothing() {
+        FourYearsForAStrip x = Check.with(0, 0);
+        x.give(0, 0);
+        String waiting = "1 or 1 and 1<1+1*";
+        for (int i = 0; i < 3; i++) {
+            S.due("a fault at the end", Check.read(x, "digs " + repeated(waiting + "(", 5) + waiting), -212);
+        }
+        S.due("a text", Check.read(x, "digs 2+3*4;weeds 1;stays 1;"), 1);
+        x.force(1);
+        S.due("is its own words alone", x.told(0, 12), 14);
+        FourYearsForAStrip many = Check.with(0, 0);
+        many.give(0, 0);
+        for (int i = 0; i < 75; i++) {
+            S.due("a fault behind a number", Check.read(many, "digs1"), -105);
+        }
+        S.due("a text behind 75 faults", Check.read(many, "digs 2+3*4;weeds 1;stays 1;"), 1);
+        many.force(1);
+        S.due("is its own words alone", many.told(0, 12), 14);
     }
 
     private static FourYearsForAStrip fullOfTexts(String tape) {

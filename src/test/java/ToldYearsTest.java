@@ -19,27 +19,20 @@ public final class ToldYearsTest {
         CHECK.end();
     }
 
-    private static void write(FourYearsForAStrip x, int sheet, int sort, int... cells) {
-        x.sheet(sheet, sort, cells.length);
-        for (int i = 0; i < cells.length; i++) {
-            x.cell(sheet, i, cells[i]);
-        }
-    }
-
     private static void firstOtherwise() {
         FourYearsForAStrip x = Check.with(0, 0);
         x.give(0, 2);
-        write(x, 0, 2, 47, 44, 41);
+        Gardens.write(x, 0, 2, 47, 44, 41);
         CHECK.due("19: all are so", x.tells(0, 2, 0), -1);
         for (int i = 0; i < 3; i++) {
-            write(x, 0, 2, 47, 44, 41);
+            Gardens.write(x, 0, 2, 47, 44, 41);
             x.cell(0, i, 7);
             CHECK.due("19: otherwise " + i, x.tells(0, 2, 0), i);
         }
         CHECK.due("19: of another strip", x.tells(0, 3, 0), 0);
-        write(x, 1, 2, 38, 26, 7, 2);
+        Gardens.write(x, 1, 2, 38, 26, 7, 2);
         CHECK.due("19: of another strip", x.tells(1, 3, 0), 2);
-        write(x, 1, 2);
+        Gardens.write(x, 1, 2);
         CHECK.due("19: none are told", x.tells(1, 3, 0), -1);
         CHECK.due("19: in thought", x.told(2, 3), 50);
     }
@@ -50,33 +43,33 @@ public final class ToldYearsTest {
         Check.read(x, "digs 0; weeds 3; stays 20;");
         Check.read(x, "digs 0; weeds 4; stays 20;");
         Check.read(x, "digs 10; weeds 13; stays 20;");
-        write(x, 0, 2, 47, 44, 41);
+        Gardens.write(x, 0, 2, 47, 44, 41);
         CHECK.due("19: texts", x.tells(0, 2, 1), 0b1011);
         CHECK.due("19: texts, of a strip nobody has", x.tells(0, 1, 1), 0b0010);
         CHECK.due("19: the rule is as it was", x.count(7), 0);
-        write(x, 0, 2);
+        Gardens.write(x, 0, 2);
         CHECK.due("19: all texts", x.tells(0, 2, 1), 0b1111);
-        write(x, 0, 2, 1);
+        Gardens.write(x, 0, 2, 1);
         CHECK.due("19: no text", x.tells(0, 2, 1), 0);
     }
 
     private static void levels() {
         FourYearsForAStrip x = Check.with(0, 0);
         x.give(0, 2);
-        write(x, 0, 2, 47, 44);
+        Gardens.write(x, 0, 2, 47, 44);
         CHECK.due("19: one level", x.tells(0, 2, 2), 1);
         CHECK.due("19: which", x.tells(0, 2, 3), 50);
         CHECK.due("19: nobody there", x.tells(0, 1, 2), 0);
-        write(x, 0, 2, 9);
+        Gardens.write(x, 0, 2, 9);
         CHECK.due("19: 0 .. 12", x.tells(0, 2, 2), 13);
         CHECK.due("19: the least", x.tells(0, 2, 3), 0);
-        write(x, 0, 2, 87);
+        Gardens.write(x, 0, 2, 87);
         CHECK.due("19: 99 is one, too", x.tells(0, 1, 2), 1);
         CHECK.due("19: 99", x.tells(0, 1, 3), 99);
-        write(x, 0, 2, 98);
+        Gardens.write(x, 0, 2, 98);
         CHECK.due("19: none", x.tells(0, 1, 2), 0);
         CHECK.due("19: no least", x.tells(0, 1, 3), -1);
-        write(x, 0, 2);
+        Gardens.write(x, 0, 2);
         CHECK.due("19: all", x.tells(0, 1, 2), 100);
         CHECK.due("19: of all the least", x.tells(0, 1, 3), 0);
         CHECK.due("19: in thought", x.told(1, 3), 50);
@@ -86,7 +79,7 @@ public final class ToldYearsTest {
         FourYearsForAStrip x = Check.ruled("digs 9; weeds 12; stays 99;", 0, 9);
         x.give(0, 2);
         x.set(6, 0, 36);
-        write(x, 0, 0, 47);
+        Gardens.write(x, 0, 0, 47);
         // TENANT 9; PENSIONER 18 less 36 by 4; HEIR 9 and 0
         CHECK.due("19: kinds", x.tells(0, 2, 4), 0b011001);
         CHECK.due("19: numbers of a TENANT", x.tells(0, 2, 5), 1023);
@@ -97,32 +90,32 @@ public final class ToldYearsTest {
         FourYearsForAStrip y = Check.with(4, 2, 5, 0, 3, 3);
         y.give(0, 2);
         y.give(1, 3);
-        write(y, 0, 1, 45);
+        Gardens.write(y, 0, 1, 45);
         CHECK.due("19: numbers of a HEIR", y.tells(0, 2, 5), 1 << 7);
         CHECK.due("19: kinds, number 2", y.tells(0, 2, 4), 0);
-        write(y, 0, 1, 44);
+        Gardens.write(y, 0, 1, 44);
         CHECK.due("19: a FENCER", y.tells(0, 3, 4), 1 << 5);
-        write(y, 0, 1);
+        Gardens.write(y, 0, 1);
         CHECK.due("19: all kinds", y.tells(0, 2, 4), 63);
         CHECK.due("19: all numbers", y.tells(0, 2, 5), 1023);
         CHECK.due("19: nobody has it, nothing told", y.tells(0, 5, 4), 0);
         CHECK.due("19: nobody has it, nothing told", y.tells(0, 5, 5), 0);
         FourYearsForAStrip z = Check.ruled("digs number; weeds 0; stays 99;", 0, 3);
         z.give(0, 0);
-        write(z, 0, 1, 54, 58);
+        Gardens.write(z, 0, 1, 54, 58);
         CHECK.due("19: a name's number", z.tells(0, 0, 5), 1 << 4);
     }
 
     private static void sorts() {
         FourYearsForAStrip x = Check.with(0, 0);
         x.give(0, 2);
-        write(x, 0, 0, 47 + 256, 44 - 256);
+        Gardens.write(x, 0, 0, 47 + 256, 44 - 256);
         CHECK.due("19: bytes", x.tells(0, 2, 0), -1);
-        write(x, 0, 1, 47 + 65536, 44 - 65536);
+        Gardens.write(x, 0, 1, 47 + 65536, 44 - 65536);
         CHECK.due("19: shorts", x.tells(0, 2, 0), -1);
-        write(x, 0, 1, 47 + 256);
+        Gardens.write(x, 0, 1, 47 + 256);
         CHECK.due("19: shorts have more bits", x.tells(0, 2, 0), 0);
-        write(x, 0, 2, 47 + 65536);
+        Gardens.write(x, 0, 2, 47 + 65536);
         CHECK.due("19: ints have more bits", x.tells(0, 2, 0), 0);
     }
 
@@ -153,7 +146,7 @@ public final class ToldYearsTest {
         x.sheet(0, 0, 2);
         CHECK.due("20: bytes", x.copy(1, 0, 0, 0, 2), 2);
         CHECK.due("20: the first, the second", x.tells(0, 2, 0), -1);
-        write(x, 3, 2, 47, 44);
+        Gardens.write(x, 3, 2, 47, 44);
         CHECK.due("20: as is due", x.tells(3, 2, 0), -1);
         CHECK.due("20: 30 of them", x.cell(1, 29, 0), 1);
         CHECK.due("20: no more", x.cell(1, 30, 0), -12);
