@@ -99,7 +99,7 @@ public final class ModelTest {
                 said = "strikeOff(" + a + ")";
                 return same(check, run, x.strikeOff(a), model.strikeOff(a));
             case 1:
-                a = upTo(5);
+                a = upTo(7);
                 said = "list(" + a + ")";
                 return same(check, run, x.list(a), model.list(a));
             case 2:
@@ -129,7 +129,7 @@ public final class ModelTest {
                 return a != 0 || same(check, run, x.feed(b), model.feed(b));
             default:
                 a = span();
-                b = upTo(4) + 10 * random.nextInt(4);
+                b = new int[] {upTo(4), 10 + upTo(5), 20 + upTo(5), 30 + upTo(7)}[random.nextInt(4)];
                 said = "run(" + a + ", " + b + ")";
                 return same(check, run, x.run(a, b), model.run(a, b));
         }
